@@ -35,6 +35,14 @@ public final class NameKeeper {
     private static final int UP = -2;
     private static final int BITS_A_LETTER = 5;
 
+    private static final int REMOVED = 0;
+    private static final int FILE = 1;
+    private static final int FOLDER = 2;
+
+    private static final int UNUSED = 0;
+    private static final int KEPT = 1;
+    private static final int GONE = 2;
+
     private static final int END = -1;
     private static final int NEW_LINE = 10;
     private static final int BLANK = 32;
@@ -388,11 +396,11 @@ public final class NameKeeper {
     }
 
     public int loads(int room) {
-        return traced.length == 0 || !isRoom(room) ? NONE : traced.loadsBy(room, world.memory);
+        return isRoom(room) && traced.length > 0 ? traced.loadsBy(room, world.memory) : NONE;
     }
 
     public int least(int n) {
-        return traced.length == 0 ? NONE : traced.leastRoom(n, world.memory);
+        return traced.runAll(world.memory) ? traced.leastRoom(n) : NONE;
     }
 
     public boolean see(int n) {
@@ -404,14 +412,14 @@ public final class NameKeeper {
     }
 
     public int fits(int k) {
-        return traced.length == 0 ? NONE : traced.fitting(k, world.memory);
+        return traced.runAll(world.memory) ? traced.fitting(k) : NONE;
     }
 
     public int tells(int what) {
-        if (traced.length == 0 || what < 0 || what > 1) {
+        if (what < 0 || what > 1 || !traced.runAll(world.memory)) {
             return NONE;
         }
-        return traced.telling(what == 1, world.memory);
+        return traced.telling(what == 1);
     }
 
     // ---- undone, refused
@@ -657,7 +665,8 @@ public final class NameKeeper {
                 return tape.at(from) == '/';
             }
             int slash = from;
-            while (slash < to) {
+            // one turn more than there may be STEPS, so that one too many is met
+            for (int turn = 0; turn <= steps.length && slash < to; turn++) {
                 int stop = endOfStep(tape, slash + 1, to);
                 int step = stepBetween(tape, slash + 1, stop);
                 if (tape.at(slash) != '/' || step == NO_STEP || !push(step)) {
@@ -682,8 +691,7 @@ public final class NameKeeper {
         private final int[] volume = new int[MOST_NODES];
         private final int[] parent = new int[MOST_NODES];
         private final int[] name = new int[MOST_NODES];
-        private final boolean[] folder = new boolean[MOST_NODES];
-        private final boolean[] there = new boolean[MOST_NODES];
+        private final int[] kind = new int[MOST_NODES];
         private final int[] roots = new int[MOST_VOLUMES];
         private int ever;
         private int volumes;
@@ -691,15 +699,13 @@ public final class NameKeeper {
         void clear() {
             ever = 0;
             volumes = 0;
-            Arrays.fill(there, false);
         }
 
         void copyFrom(Nodes other) {
             System.arraycopy(other.volume, 0, volume, 0, MOST_NODES);
             System.arraycopy(other.parent, 0, parent, 0, MOST_NODES);
             System.arraycopy(other.name, 0, name, 0, MOST_NODES);
-            System.arraycopy(other.folder, 0, folder, 0, MOST_NODES);
-            System.arraycopy(other.there, 0, there, 0, MOST_NODES);
+            System.arraycopy(other.kind, 0, kind, 0, MOST_NODES);
             System.arraycopy(other.roots, 0, roots, 0, MOST_VOLUMES);
             ever = other.ever;
             volumes = other.volumes;
@@ -709,16 +715,12 @@ public final class NameKeeper {
             return ever >= MOST_NODES;
         }
 
-        boolean isNumber(int n) {
-            return n >= 0 && n < MOST_NODES && n < ever;
-        }
-
         boolean exists(int n) {
-            return isNumber(n) && there[n];
+            return n >= 0 && n < MOST_NODES && n < ever && kind[n] != REMOVED;
         }
 
         boolean isFolder(int n) {
-            return exists(n) && folder[n];
+            return exists(n) && kind[n] == FOLDER;
         }
 
         boolean hasVolume(int v) {
@@ -730,7 +732,7 @@ public final class NameKeeper {
         }
 
         int volumeOf(int n) {
-            return isNumber(n) ? volume[n] : NONE;
+            return n >= 0 && n < MOST_NODES && n < ever ? volume[n] : NONE;
         }
 
         int parentOf(int n) {
@@ -742,41 +744,40 @@ public final class NameKeeper {
         }
 
         boolean addVolume() {
-            if (volumes >= MOST_VOLUMES || ever >= MOST_NODES) {
+            if (volumes < 0 || volumes >= MOST_VOLUMES || ever >= MOST_NODES) {
                 return false;
             }
             volumes++;
-            roots[volumes - 1] = put(volumes - 1, NONE, NO_STEP, true);
+            roots[volumes - 1] = put(volumes - 1, NONE, NO_STEP, FOLDER);
             return true;
         }
 
-        int addIn(int parentFolder, int newName, boolean asFolder) {
-            return isFolder(parentFolder) && !isFull() ? put(volume[parentFolder], parentFolder, newName, asFolder) : NONE;
+        int addIn(int folder, int newName, int newKind) {
+            return isFolder(folder) ? put(volume[folder], folder, newName, newKind) : NONE;
         }
 
-        private int put(int v, int p, int newName, boolean asFolder) {
+        private int put(int v, int folder, int newName, int newKind) {
             int n = ever;
             if (n < 0 || n >= MOST_NODES) {
                 return NONE;
             }
             ever++;
             volume[n] = v;
-            parent[n] = p;
+            parent[n] = folder;
             name[n] = newName;
-            folder[n] = asFolder;
-            there[n] = true;
+            kind[n] = newKind;
             return n;
         }
 
         void becomeFolder(int n) {
             if (exists(n)) {
-                folder[n] = true;
+                kind[n] = FOLDER;
             }
         }
 
         void take(int n) {
             if (exists(n)) {
-                there[n] = false;
+                kind[n] = REMOVED;
             }
         }
 
@@ -787,19 +788,19 @@ public final class NameKeeper {
             }
         }
 
-        int find(int inFolder, int byName) {
+        int find(int folder, int byName) {
             for (int n = 0; n < ever && n < MOST_NODES; n++) {
-                if (there[n] && parent[n] == inFolder && name[n] == byName) {
+                if (kind[n] != REMOVED && parent[n] == folder && name[n] == byName) {
                     return n;
                 }
             }
             return NONE;
         }
 
-        int howManyIn(int inFolder) {
+        int howManyIn(int folder) {
             int count = 0;
             for (int n = 0; n < ever && n < MOST_NODES; n++) {
-                if (there[n] && parent[n] == inFolder) {
+                if (kind[n] != REMOVED && parent[n] == folder) {
                     count++;
                 }
             }
@@ -809,7 +810,7 @@ public final class NameKeeper {
         int howMany() {
             int count = 0;
             for (int n = 0; n < ever && n < MOST_NODES; n++) {
-                count += there[n] ? 1 : 0;
+                count += kind[n] != REMOVED ? 1 : 0;
             }
             return count;
         }
@@ -820,7 +821,7 @@ public final class NameKeeper {
             }
             switch (what) {
                 case 0: return volume[n];
-                case 1: return folder[n] ? 1 : 0;
+                case 1: return kind[n] == FOLDER ? 1 : 0;
                 case 2: return parent[n];
                 case 3: return howManyIn(n);
                 default: return NONE;
@@ -863,7 +864,7 @@ public final class NameKeeper {
         }
 
         private void skipBlanks(Tape tape) {
-            while (tape.at(pos) == BLANK || tape.at(pos) == NEW_LINE) {
+            while (pos < tape.length && (tape.at(pos) == BLANK || tape.at(pos) == NEW_LINE)) {
                 pos++;
             }
         }
@@ -918,7 +919,7 @@ public final class NameKeeper {
             if (draft.find(folder, name) != NONE) {
                 return fail(TWICE, start);
             }
-            int node = draft.addIn(folder, name, false);
+            int node = draft.addIn(folder, name, FILE);
             skipBlanks(tape);
             return tape.at(pos) != '{' || openFolder(node);
         }
@@ -938,8 +939,7 @@ public final class NameKeeper {
     /** The MEMORY: ENTRIES, by number, what holds them, what is MOUNTED. */
     private static final class Memory {
         private final Nodes nodes;
-        private final boolean[] used = new boolean[MOST_ENTRIES];
-        private final boolean[] gone = new boolean[MOST_ENTRIES];
+        private final int[] state = new int[MOST_ENTRIES];
         private final int[] parent = new int[MOST_ENTRIES];
         private final int[] name = new int[MOST_ENTRIES];
         private final int[] node = new int[MOST_ENTRIES];
@@ -964,7 +964,7 @@ public final class NameKeeper {
         }
 
         void startAnew() {
-            Arrays.fill(used, false);
+            Arrays.fill(state, UNUSED);
             Arrays.fill(rootEntry, NONE);
             Arrays.fill(covered, NONE);
             limit = MOST_ROOM;
@@ -976,8 +976,7 @@ public final class NameKeeper {
         }
 
         void copyFrom(Memory other) {
-            System.arraycopy(other.used, 0, used, 0, MOST_ENTRIES);
-            System.arraycopy(other.gone, 0, gone, 0, MOST_ENTRIES);
+            System.arraycopy(other.state, 0, state, 0, MOST_ENTRIES);
             System.arraycopy(other.parent, 0, parent, 0, MOST_ENTRIES);
             System.arraycopy(other.name, 0, name, 0, MOST_ENTRIES);
             System.arraycopy(other.node, 0, node, 0, MOST_ENTRIES);
@@ -994,11 +993,11 @@ public final class NameKeeper {
         }
 
         boolean isEntry(int e) {
-            return e >= 0 && e < MOST_ENTRIES && used[e];
+            return e >= 0 && e < MOST_ENTRIES && state[e] != UNUSED;
         }
 
         boolean isGone(int e) {
-            return isEntry(e) && gone[e];
+            return isEntry(e) && state[e] == GONE;
         }
 
         boolean isAbsence(int e) {
@@ -1044,10 +1043,6 @@ public final class NameKeeper {
             return v >= 0 && v < MOST_VOLUMES ? covered[v] : NONE;
         }
 
-        boolean isFree(int e) {
-            return isEntry(e) && held[e] == 0 && rootVolume(e) == NONE;
-        }
-
         /** FOUND, no ROOT, not COVERED: what REMOVED, RENAMED, MOUNTED ask alike. */
         boolean canChange(int e) {
             return isEntry(e) && rootVolume(e) == NONE && coveringVolume(e) == NONE;
@@ -1058,7 +1053,7 @@ public final class NameKeeper {
                 return NONE;
             }
             for (int e = 0; e < MOST_ENTRIES; e++) {
-                if (used[e] && parent[e] == under && name[e] == byName) {
+                if (state[e] != UNUSED && parent[e] == under && name[e] == byName) {
                     return e;
                 }
             }
@@ -1067,7 +1062,7 @@ public final class NameKeeper {
 
         private int leastUnused() {
             for (int e = 0; e < MOST_ENTRIES; e++) {
-                if (!used[e]) {
+                if (state[e] == UNUSED) {
                     return e;
                 }
             }
@@ -1079,8 +1074,7 @@ public final class NameKeeper {
             if (e < 0 || e >= MOST_ENTRIES) {
                 return NONE;
             }
-            used[e] = true;
-            gone[e] = false;
+            state[e] = KEPT;
             parent[e] = under;
             name[e] = newName;
             node[e] = newNode;
@@ -1093,7 +1087,7 @@ public final class NameKeeper {
         }
 
         private void comeTo(int e) {
-            if (!isEntry(e)) {
+            if (e < 0 || e >= MOST_ENTRIES) {
                 return;
             }
             lastUse[e] = tick;
@@ -1104,27 +1098,32 @@ public final class NameKeeper {
             }
         }
 
+        /** An ENTRY that nothing holds goes; the one above it, never a GONE one, is HELD once less. */
         void drop(int e) {
-            if (!isEntry(e)) {
+            if (e < 0 || e >= MOST_ENTRIES) {
                 return;
             }
-            used[e] = false;
-            release(parent[e]);
+            state[e] = UNUSED;
+            int above = parent[e];
+            if (above >= 0 && above < MOST_ENTRIES) {
+                held[above]--;
+            }
         }
 
         void hold(int e) {
-            if (isEntry(e)) {
+            if (e >= 0 && e < MOST_ENTRIES) {
                 held[e]++;
             }
         }
 
+        /** A GONE ENTRY goes with the last that held it. */
         void release(int e) {
-            if (!isEntry(e) || held[e] <= 0) {
+            if (e < 0 || e >= MOST_ENTRIES) {
                 return;
             }
             held[e]--;
-            if (gone[e] && held[e] == 0) {
-                used[e] = false;
+            if (state[e] == GONE && held[e] <= 0) {
+                state[e] = UNUSED;
             }
         }
 
@@ -1144,7 +1143,7 @@ public final class NameKeeper {
         }
 
         private void shrink(int justLoaded) {
-            int tooMany = howMany() - rootsMounted() - limit;
+            int tooMany = howManyButRoots() - limit;
             for (int turn = 0; turn < tooMany; turn++) {
                 int e = longestUnused(justLoaded);
                 if (e == NONE) {
@@ -1155,12 +1154,16 @@ public final class NameKeeper {
             }
         }
 
-        /** The FREE ENTRY of the least USE but for one that is spared; NONE if there is none. */
+        /**
+         * The FREE ENTRY of the least USE but for one that is spared; NONE if there is none.
+         * Only ROOTS and GONE ENTRIES, which are HELD, have no PARENT.
+         */
         int longestUnused(int spared) {
             int best = NONE;
             int bestUse = 0;
             for (int e = 0; e < MOST_ENTRIES; e++) {
-                if (e != spared && isFree(e) && (best == NONE || lastUse[e] < bestUse)) {
+                boolean free = state[e] == KEPT && held[e] == 0 && parent[e] != NONE;
+                if (free && e != spared && (best == NONE || lastUse[e] < bestUse)) {
                     best = e;
                     bestUse = lastUse[e];
                 }
@@ -1237,11 +1240,11 @@ public final class NameKeeper {
         }
 
         /** An ABSENCE has a NODE from now on. */
-        int fill(int e, boolean asFolder) {
+        int fill(int e, int kind) {
             if (!isAbsence(e)) {
                 return NONE;
             }
-            node[e] = nodes.addIn(nodeOf(parent[e]), name[e], asFolder);
+            node[e] = nodes.addIn(nodeOf(parent[e]), name[e], kind);
             count[e]++;
             return node[e];
         }
@@ -1253,7 +1256,7 @@ public final class NameKeeper {
             }
             count[e]++;
             for (int below = 0; below < MOST_ENTRIES; below++) {
-                if (used[below] && parent[below] == e) {
+                if (state[below] != UNUSED && parent[below] == e) {
                     drop(below);
                 }
             }
@@ -1262,7 +1265,7 @@ public final class NameKeeper {
                 return;
             }
             int above = parent[e];
-            gone[e] = true;
+            state[e] = GONE;
             parent[e] = NONE;
             release(above);
         }
@@ -1313,7 +1316,7 @@ public final class NameKeeper {
         private int heldBelow(int e) {
             int count = 0;
             for (int below = 0; below < MOST_ENTRIES; below++) {
-                if (used[below] && parent[below] == e) {
+                if (state[below] != UNUSED && parent[below] == e) {
                     count++;
                 }
             }
@@ -1365,11 +1368,13 @@ public final class NameKeeper {
                 markUpFrom(covered[v]);
             }
             for (int e = 0; e < MOST_ENTRIES; e++) {
-                used[e] = used[e] && held[e] > 0;
+                if (held[e] == 0) {
+                    state[e] = UNUSED;
+                }
             }
             Arrays.fill(held, 0);
             for (int e = 0; e < MOST_ENTRIES; e++) {
-                if (used[e]) {
+                if (state[e] != UNUSED) {
                     hold(parent[e]);
                 }
             }
@@ -1389,7 +1394,15 @@ public final class NameKeeper {
         int howMany() {
             int sum = 0;
             for (int e = 0; e < MOST_ENTRIES; e++) {
-                sum += used[e] ? 1 : 0;
+                sum += state[e] != UNUSED ? 1 : 0;
+            }
+            return sum;
+        }
+
+        private int howManyButRoots() {
+            int sum = 0;
+            for (int e = 0; e < MOST_ENTRIES; e++) {
+                sum += state[e] == GONE || state[e] == KEPT && parent[e] != NONE ? 1 : 0;
             }
             return sum;
         }
@@ -1405,7 +1418,7 @@ public final class NameKeeper {
         int freeOnes() {
             int sum = 0;
             for (int e = 0; e < MOST_ENTRIES; e++) {
-                sum += isFree(e) ? 1 : 0;
+                sum += state[e] == KEPT && held[e] == 0 && parent[e] != NONE ? 1 : 0;
             }
             return sum;
         }
@@ -1426,10 +1439,6 @@ public final class NameKeeper {
             return bits;
         }
 
-        private int rootsMounted() {
-            return Integer.bitCount(mountedBits());
-        }
-
         int tell(int e, int what) {
             if (!isEntry(e)) {
                 return NONE;
@@ -1442,7 +1451,7 @@ public final class NameKeeper {
                 case 4: return lastUse[e];
                 case 5: return birth[e];
                 case 6: return coveringVolume(e);
-                case 7: return gone[e] ? 1 : 0;
+                case 7: return state[e] == GONE ? 1 : 0;
                 default: return NONE;
             }
         }
@@ -1695,12 +1704,6 @@ public final class NameKeeper {
 
         // -- nodes made, removed, renamed; volumes mounted
 
-        /** The folder's ENTRY that all STEPS but the last come to; NONE if they come to none. */
-        private int folderFor(Route route) {
-            int at = memory.walk(route, route.length - 1);
-            return memory.isFolder(at) ? at : NONE;
-        }
-
         /** The ABSENCE in a folder by the last STEP; NONE if that is no NAME, or something is there. */
         private int gapIn(int folder, Route route) {
             int name = route.last();
@@ -1712,9 +1715,9 @@ public final class NameKeeper {
         }
 
         int makeAt(Route route, boolean asFolder) {
-            int folder = folderFor(route);
-            int gap = folder == NONE ? NONE : gapIn(folder, route);
-            return gap == NONE ? NONE : memory.fill(gap, asFolder);
+            int folder = memory.walk(route, route.length - 1);
+            int gap = memory.isFolder(folder) ? gapIn(folder, route) : NONE;
+            return gap == NONE ? NONE : memory.fill(gap, asFolder ? FOLDER : FILE);
         }
 
         int removeAt(Route route) {
@@ -1734,27 +1737,23 @@ public final class NameKeeper {
                 return NONE;
             }
             memory.hold(e);
-            int moved = moveTo(e, to);
+            int folder = memory.walk(to, to.length - 1);
+            int gap = canTake(folder, e) ? gapIn(folder, to) : NONE;
             memory.release(e);
-            return moved;
-        }
-
-        private int moveTo(int e, Route to) {
-            int n = memory.nodeOf(e);
-            int folder = folderFor(to);
-            int folderNode = memory.nodeOf(folder);
-            boolean apart = folder == NONE || nodes.volumeOf(folderNode) != nodes.volumeOf(n);
-            if (apart || memory.isWithin(folder, e)) {
-                return NONE;
-            }
-            int gap = gapIn(folder, to);
             if (gap == NONE) {
                 return NONE;
             }
             memory.drop(gap);
+            nodes.move(memory.nodeOf(e), memory.nodeOf(folder), to.last());
             memory.move(e, folder, to.last());
-            nodes.move(n, folderNode, to.last());
             return e;
+        }
+
+        /** Whether a folder is one, in the VOLUME of an ENTRY, and neither it nor below it. */
+        private boolean canTake(int folder, int e) {
+            int from = nodes.volumeOf(memory.nodeOf(e));
+            int to = nodes.volumeOf(memory.nodeOf(folder));
+            return memory.isFolder(folder) && from == to && !memory.isWithin(folder, e);
         }
 
         int mountAt(Route route, int volume) {
@@ -1885,6 +1884,9 @@ public final class NameKeeper {
 
         /** LOOKS at all PATHS by the ROOM of a row; whether something was TRIMMED. */
         private boolean runBy(int row) {
+            if (row < 0 || row >= ROOMS) {
+                return false;
+            }
             trial.copyFrom(bare);
             trial.limit = LEAST_ROOM + row;
             int start = trial.loaded;
@@ -1900,12 +1902,15 @@ public final class NameKeeper {
             return trial.trimmed > bare.trimmed;
         }
 
-        /** Fills the rows of all ROOMS. */
-        private void runAll(Memory memory) {
+        /** Fills the rows of all ROOMS; false without a TRACE. */
+        boolean runAll(Memory memory) {
+            if (length == 0) {
+                return false;
+            }
             prepare(memory);
             boolean tight = true;
             for (int row = 0; row < ROOMS; row++) {
-                if (tight) {
+                if (tight || row == 0) {
                     tight = runBy(row);
                 } else {
                     // where nothing had to be TRIMMED, more ROOM changes nothing
@@ -1913,6 +1918,7 @@ public final class NameKeeper {
                     totals[row] = totals[row - 1];
                 }
             }
+            return true;
         }
 
         private boolean isFit(int row) {
@@ -1929,8 +1935,7 @@ public final class NameKeeper {
             return totals[row];
         }
 
-        int leastRoom(int n, Memory memory) {
-            runAll(memory);
+        int leastRoom(int n) {
             for (int row = 0; row < ROOMS; row++) {
                 if (totals[row] <= n) {
                     return LEAST_ROOM + row;
@@ -1939,8 +1944,7 @@ public final class NameKeeper {
             return NONE;
         }
 
-        int fitting(int k, Memory memory) {
-            runAll(memory);
+        int fitting(int k) {
             int met = 0;
             for (int row = 0; row < ROOMS; row++) {
                 if (isFit(row)) {
@@ -1954,8 +1958,7 @@ public final class NameKeeper {
         }
 
         /** The TELLING PATH, or how many FITS it leaves at the most; NONE without FITS. */
-        int telling(boolean howMany, Memory memory) {
-            runAll(memory);
+        int telling(boolean howMany) {
             int best = NONE;
             int fewest = ROOMS + 1;
             for (int p = 0; p < length && p < MOST_PATHS; p++) {
