@@ -69,6 +69,8 @@ public final class NameKeeper {
     private final Memory trial;
     private final History history;
     private final Trace traced;
+    private final Route first;
+    private final Route second;
     private final Route[] told;
     private final Route longWay;
     private final int[] written;
@@ -86,8 +88,12 @@ public final class NameKeeper {
         trial = new Memory(nodes);
         history = new History();
         traced = new Trace(new Memory(nodes), new Memory(nodes));
+        first = new Route(MOST_STEPS);
+        second = new Route(MOST_STEPS);
         told = new Route[MOST_PATHS];
-        for (int k = 0; k < told.length; k++) {
+        told[0] = first;
+        told[1] = second;
+        for (int k = 2; k < told.length; k++) {
             told[k] = new Route(MOST_STEPS);
         }
         longWay = new Route(MOST_NODES);
@@ -198,7 +204,7 @@ public final class NameKeeper {
         if (!takePaths(1)) {
             return NONE;
         }
-        int at = tryOut(told[0]);
+        int at = tryOut(first);
         return at < 0 ? at : trial.nodeOf(at);
     }
 
@@ -206,7 +212,7 @@ public final class NameKeeper {
         if (!takePaths(1)) {
             return NONE;
         }
-        tryOut(told[0]);
+        tryOut(first);
         return trial.loaded - world.memory.loaded;
     }
 
@@ -254,7 +260,7 @@ public final class NameKeeper {
             return refuse(REFUSED_LOOK);
         }
         history.keep(world);
-        return world.memory.walk(told[0], told[0].length);
+        return world.memory.walk(first, first.length);
     }
 
     public int make(boolean folder) {
@@ -262,7 +268,7 @@ public final class NameKeeper {
             return refuse(REFUSED_CHANGE);
         }
         history.keep(world);
-        return orRefuse(world.makeAt(told[0], folder), REFUSED_CHANGE);
+        return orRefuse(world.makeAt(first, folder), REFUSED_CHANGE);
     }
 
     public int remove() {
@@ -270,7 +276,7 @@ public final class NameKeeper {
             return refuse(REFUSED_CHANGE);
         }
         history.keep(world);
-        return orRefuse(world.removeAt(told[0]), REFUSED_CHANGE);
+        return orRefuse(world.removeAt(first), REFUSED_CHANGE);
     }
 
     public int rename() {
@@ -278,7 +284,7 @@ public final class NameKeeper {
             return refuse(REFUSED_CHANGE);
         }
         history.keep(world);
-        return orRefuse(world.renameTo(told[0], told[1]), REFUSED_CHANGE);
+        return orRefuse(world.renameTo(first, second), REFUSED_CHANGE);
     }
 
     public int open() {
@@ -286,7 +292,7 @@ public final class NameKeeper {
             return refuse(REFUSED_HANDLE);
         }
         history.keep(world);
-        return orRefuse(world.openAt(told[0]), REFUSED_HANDLE);
+        return orRefuse(world.openAt(first), REFUSED_HANDLE);
     }
 
     public boolean close(int handle) {
@@ -303,7 +309,7 @@ public final class NameKeeper {
             return refuse(REFUSED_CHANGE);
         }
         history.keep(world);
-        return orRefuse(world.mountAt(told[0], volume), REFUSED_CHANGE);
+        return orRefuse(world.mountAt(first, volume), REFUSED_CHANGE);
     }
 
     public int unmount(int volume) {
@@ -352,7 +358,7 @@ public final class NameKeeper {
             return refuse(REFUSED_WALKER);
         }
         history.keep(world);
-        return world.beginWalk(told[0]);
+        return world.beginWalk(first);
     }
 
     public int step(int walker) {
