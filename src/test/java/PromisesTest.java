@@ -217,6 +217,14 @@ public final class PromisesTest {
         due("result", x.result(0), NONE);
         due("undo", x.undo(), false);
         due("status of trees stays", x.status(1), 1);
+        // what was MOUNTED is no more, though its numbers come again
+        fresh("a;b;");
+        trees("a{b};x;");
+        mount("/a", 1);
+        trees("a{b};x;");
+        due("nothing is covered", look("/a/b"), 2);
+        due("nothing covers", x.entry(1, 6), NONE);
+        due("held by b alone", x.entry(1, 2), 1);
     }
 
     private static String names(int count) {
@@ -1018,6 +1026,17 @@ public final class PromisesTest {
         x.unmount(1);
         due("anew", x.step(0), 0);
         due("restarts", x.walker(0, 1), 1);
+        // the longest way there is: two for each of twelve steps
+        fresh(USUAL);
+        mount("/a", 1);
+        begin("/a/../a/../a/../a/../a/../a/..");
+        for (int k = 1; k < 12; k++) {
+            due("step " + k, x.step(0), 0);
+            due("way " + k, x.walker(0, 4), 1 + 2 * k);
+        }
+        due("found", x.step(0), 1);
+        due("the root", x.result(1), 0);
+        due("light", x.result(3), 0);
     }
 
     private static void traces() { // 33, 34, 35, 36, 37
@@ -1048,6 +1067,8 @@ public final class PromisesTest {
         due("behind", x.fits(37), NONE);
         due("-2", x.fits(-2), NONE);
         due("see -1", x.see(-1), false);
+        due("see 0", x.see(0), true);
+        due("none fits 0", x.fits(NONE), 0);
         due("see 4", x.see(4), true);
         due("seen", x.has(13), 4);
         due("all fit", x.fits(NONE), 37);
@@ -1178,6 +1199,7 @@ public final class PromisesTest {
         x.undo();
         due("it is again", x.walker(0, 2), 1);
         due("and goes on", x.step(0), 1);
+        undoneRestart();
         trace("/a");
         x.see(3);
         x.seed(1);
@@ -1185,6 +1207,23 @@ public final class PromisesTest {
         x.undo();
         due("trace stays", x.has(12), 1);
         due("seen stays", x.has(13), 3);
+    }
+
+    private static void undoneRestart() {
+        NameKeeper before = x;
+        fresh("a b;");
+        look("/a");
+        begin("/a/.");
+        x.step(0);
+        x.trim(1);
+        look("/a");
+        due("anew", x.step(0), 0);
+        x.undo();
+        due("not yet", x.walker(0, 1), 0);
+        due("light", x.walker(0, 0), 0);
+        due("its way is that of before: anew again", x.step(0), 0);
+        due("restarts", x.walker(0, 1), 1);
+        x = before;
     }
 
     private static void undoneDepth() {
