@@ -109,9 +109,9 @@ public final class LanguageTest {
 
     private static void dearRun() {
         NameKeeper x = new NameKeeper();
-        put(x, "a{b{c{d{e}}}}f g h;i;j;");
+        Script.put(x, "a{b{c{d{e}}}}f g h;i;j;");
         x.trees();
-        put(x, "/a/b/c/d/e /f /g /h /a/b /q /r /s /a/b/c/d/e /f /g /h");
+        Script.put(x, "/a/b/c/d/e /f /g /h /a/b /q /r /s /a/b/c/d/e /f /g /h");
         x.trace();
         for (int k = 0; k < 60; k++) {
             x.chance(40);
@@ -119,20 +119,9 @@ public final class LanguageTest {
             x.fits(3);
             x.least(9);
             x.victim(-1);
-            put(x, "/a/b/c/d/e/..");
+            Script.put(x, "/a/b/c/d/e/..");
             x.begin();
             x.step(0);
         }
-    }
-
-    private static void put(NameKeeper x, String text) {
-        for (int i = 0; i < text.length(); i += 20) {
-            int[] words = new int[5];
-            for (int k = 0; k < 20; k++) {
-                words[k / 4] = words[k / 4] << 8 | (i + k < text.length() ? text.charAt(i + k) : ' ');
-            }
-            x.feed(words[0], words[1], words[2], words[3], words[4]);
-        }
-        x.end(text.length());
     }
 }

@@ -15,9 +15,10 @@ public final class ModelTest {
     static final int NONE = -1;
     static final int NOTHING = -2;
     static final int BLOCKED = -3;
+    static final int MOST_CALLS = 512;
 
     public static void main(String[] args) {
-        int runs = args.length > 0 ? Integer.parseInt(args[0]) : 1000;
+        int runs = args.length > 0 ? Integer.parseInt(args[0]) : 5000;
         for (int run = 0; run < runs; run++) {
             String wrong = new Run(run).go();
             if (wrong != null) {
@@ -777,6 +778,7 @@ public final class ModelTest {
         final NameKeeper x = new NameKeeper();
         final Model m = new Model();
         final List<String> log = new ArrayList<>();
+        int calls = 0;
         String wrong;
         final int letters;
         final int style;
@@ -868,7 +870,10 @@ public final class ModelTest {
             return (p.equals("/") ? "" : p) + "/" + name();
         }
 
+        /** Each is one call of the object; what is answered behind its 512th is free. */
         void check(String call, long got, long want) {
+            calls++;
+            if (calls > MOST_CALLS) return;
             log.add(call + " = " + want);
             if (got != want && wrong == null) {
                 wrong = call + " answered " + got + ", due is " + want + "\n" + String.join("\n", log);
@@ -962,58 +967,68 @@ public final class ModelTest {
         }
 
         void ask() {
-            String p = put(path());
-            check("where " + p, x.where(), m.where(p));
-            p = put(path());
-            check("needs " + p, x.needs(), m.needs(p));
-            p = put(below(10) == 0 ? path() : name());
-            int parent = below(10) - 1;
-            check("child " + p + " " + parent, x.child(parent), m.child(p, parent));
-            for (int k = -2; k < 12; k++) check("victim " + k, x.victim(k), m.victim(k));
-            int h = below(7) - 1;
-            check("path " + h, x.path(h), m.path(h));
-            for (int k = -1; k <= m.written.length(); k++) check("octet " + k, x.octet(k), m.octet(k));
+            String p;
+            switch (below(4)) {
+                case 0: p = put(path()); check("where " + p, x.where(), m.where(p)); break;
+                case 1: p = put(path()); check("needs " + p, x.needs(), m.needs(p)); break;
+                case 2: {
+                    p = put(below(10) == 0 ? path() : name());
+                    int parent = below(10) - 1;
+                    check("child " + p + " " + parent, x.child(parent), m.child(p, parent));
+                    break;
+                }
+                default: {
+                    int h = below(7) - 1;
+                    check("path " + h, x.path(h), m.path(h));
+                    for (int i = 0; i < 3; i++) { int k = below(m.written.length() + 2) - 1; check("octet " + k, x.octet(k), m.octet(k)); }
+                }
+            }
         }
 
-        void compareAll() {
-            for (int w = -1; w < 17; w++) check("has " + w, x.has(w), m.has(w));
-            for (int n = -1; n < 61; n++) for (int w = -1; w < 5; w++) {
-                check("node " + n + " " + w, x.node(n, w), m.node(n, w));
-                check("letter " + n + " " + w, x.letter(false, n, w), m.letter(false, n, w));
+        /** So many questions by chance, of numbers that are there and of some beside them. */
+        void askSome(int n) {
+            for (int i = 0; i < n && calls < MOST_CALLS; i++) {
+                int what = below(10) - 1;
+                int e = below(m.s.entries.size() + 3) - 1;
+                int k = below(8) - 1;
+                switch (below(14)) {
+                    case 0: case 1: { int w = below(18) - 1; check("has " + w, x.has(w), m.has(w)); break; }
+                    case 2: { int node = below(m.s.nodes.size() + 2) - 1; check("node " + node + " " + what, x.node(node, what), m.node(node, what)); break; }
+                    case 3: { int node = below(62) - 1; check("letter " + node + " " + what, x.letter(false, node, what), m.letter(false, node, what)); break; }
+                    case 4: check("letter of entry " + e + " " + what, x.letter(true, e, what), m.letter(true, e, what)); break;
+                    case 5: check("handle " + k, x.handle(k), m.handle(k)); break;
+                    case 6: check("walker " + k + " " + what, x.walker(k, what), m.walker(k, what)); break;
+                    case 7: check("result " + k, x.result(k), m.result(k)); break;
+                    case 8: check("status " + k, x.status(k), k < 0 || k > 5 ? NONE : m.refused[k]); break;
+                    case 9: check("fault", x.fault(0), m.fault); check("place", x.fault(1), m.place); break;
+                    case 10: { int v = below(14) - 2; check("victim " + v, x.victim(v), m.victim(v)); break; }
+                    default: check("entry " + e + " " + what, x.entry(e, what), m.entry(e, what));
+                }
             }
-            for (int e = -1; e < 65; e++) for (int w = -1; w < 9; w++) {
-                check("entry " + e + " " + w, x.entry(e, w), m.entry(e, w));
-                check("letter " + e + " " + w, x.letter(true, e, w), m.letter(true, e, w));
-            }
-            for (int k = -1; k < 7; k++) {
-                check("handle " + k, x.handle(k), m.handle(k));
-                for (int w = -1; w < 7; w++) check("walker " + k + " " + w, x.walker(k, w), m.walker(k, w));
-                check("result " + k, x.result(k), m.result(k));
-            }
-            for (int k = -1; k < 7; k++) check("status " + k, x.status(k), k < 0 || k > 5 ? NONE : m.refused[k]);
-            check("fault", x.fault(0), m.fault);
-            check("place", x.fault(1), m.place);
         }
 
         String go() {
-            if (below(3) == 0) for (int i = 0; i < 5; i++) act();
-            for (int tries = 0; tries < 1 + below(3) || m.s.volumes == 0 && below(20) > 0; tries++) {
+            if (below(3) == 0) for (int i = 0; i < 3; i++) act();
+            for (int tries = 0; tries < 1 + below(2) || m.s.volumes == 0 && tries < 5; tries++) {
                 String t = put(treeText());
                 check("trees " + t, x.trees(), m.trees(t));
-                compareAll();
+                askSome(4);
             }
-            int calls = 40 + below(300);
-            for (int i = 0; i < calls && wrong == null; i++) {
+            // the questions alone come behind the acts of one run, all of them between the acts of another
+            int acts = 100 + below(400);
+            int questions = below(4);
+            while (calls < acts && wrong == null) {
                 act();
                 int mark = log.size();
-                if (below(4) == 0) ask();
-                if (below(3) == 0) compareAll();
+                if (below(8) == 0) ask();
+                askSome(questions);
                 if (wrong == null) log.subList(mark, log.size()).clear();
-                if (below(400) == 0) {
+                if (below(200) == 0) {
                     String t = put(treeText());
                     check("trees " + t, x.trees(), m.trees(t));
                 }
             }
+            askSome(MOST_CALLS);
             return wrong;
         }
     }

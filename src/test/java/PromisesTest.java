@@ -1,81 +1,5 @@
 /** Each promise of the document by hand: ordinary inputs, the edges it names, wrong inputs. */
-public final class PromisesTest {
-    private static final int NONE = NameKeeper.NONE;
-    private static final int NOTHING = NameKeeper.NOTHING;
-    private static final int BLOCKED = NameKeeper.BLOCKED;
-    private static int wrong = 0;
-    private static NameKeeper x;
-
-    private static void due(String call, long got, long want) {
-        if (got != want) {
-            wrong++;
-            System.out.println(call + " answered " + got + ", due is " + want);
-        }
-    }
-
-    private static void due(String call, boolean got, boolean want) {
-        due(call, got ? 1 : 0, want ? 1 : 0);
-    }
-
-    private static void feedText(String text) {
-        for (int i = 0; i < text.length(); i += 20) {
-            int[] words = new int[5];
-            for (int k = 0; k < 20; k++) {
-                int octet = i + k < text.length() ? text.charAt(i + k) : ' ';
-                words[k / 4] = words[k / 4] << 8 | octet;
-            }
-            x.feed(words[0], words[1], words[2], words[3], words[4]);
-        }
-        x.end(text.length());
-    }
-
-    private static int trees(String text) { feedText(text); return x.trees(); }
-    private static int where(String text) { feedText(text); return x.where(); }
-    private static int needs(String text) { feedText(text); return x.needs(); }
-    private static int look(String text) { feedText(text); return x.look(); }
-    private static int folder(String text) { feedText(text); return x.make(true); }
-    private static int file(String text) { feedText(text); return x.make(false); }
-    private static int remove(String text) { feedText(text); return x.remove(); }
-    private static int rename(String text) { feedText(text); return x.rename(); }
-    private static int open(String text) { feedText(text); return x.open(); }
-    private static int mount(String text, int volume) { feedText(text); return x.mount(volume); }
-    private static int begin(String text) { feedText(text); return x.begin(); }
-    private static int trace(String text) { feedText(text); return x.trace(); }
-    private static int child(String text, int parent) { feedText(text); return x.child(parent); }
-
-    private static void fresh(String text) {
-        x = new NameKeeper();
-        if (trees(text) < 1) {
-            wrong++;
-            System.out.println("trees " + text + " were refused");
-        }
-    }
-
-    private static void faulty(String text, int kind, int place) {
-        due("trees " + text, trees(text), NONE);
-        due("fault of " + text, x.fault(0), kind);
-        due("place of " + text, x.fault(1), place);
-    }
-
-    private static String written(int handle) {
-        int length = x.path(handle);
-        StringBuilder text = new StringBuilder();
-        for (int k = 0; k < length; k++) {
-            text.append((char) x.octet(k));
-        }
-        return length < 0 ? "none" : text.toString();
-    }
-
-    private static void dueText(String call, String got, String want) {
-        if (!got.equals(want)) {
-            wrong++;
-            System.out.println(call + " answered '" + got + "', due is '" + want + "'");
-        }
-    }
-
-    // a is node 1, b 2, c 3, d 4, e 5; the second volume's root 6, x 7, y 8; the third's 9, z 10
-    private static final String USUAL = "a{b{c}d}e;x{y};z;";
-
+public final class PromisesTest extends Script {
     public static void main(String[] args) {
         newObject();
         tape();
@@ -109,10 +33,7 @@ public final class PromisesTest {
         undoneRefusals();
         seeds();
         refusals();
-        System.out.println(wrong == 0 ? "all promises are kept" : wrong + " answers are not as due");
-        if (wrong != 0) {
-            System.exit(1);
-        }
+        finish("all promises are kept");
     }
 
     private static void newObject() { // 1
@@ -225,16 +146,6 @@ public final class PromisesTest {
         due("nothing is covered", look("/a/b"), 2);
         due("nothing covers", x.entry(1, 6), NONE);
         due("held by b alone", x.entry(1, 2), 1);
-    }
-
-    private static String names(int count) {
-        StringBuilder text = new StringBuilder();
-        for (int k = 0; k < count; k++) {
-            if (k > 0) text.append(' ');
-            if (k >= 26) text.append('a');
-            text.append((char) ('a' + k % 26));
-        }
-        return text.toString();
     }
 
     private static void counts() { // 6
