@@ -556,8 +556,10 @@ public final class ActsBoundariesTest extends Script {
         look("/a/q");
         look("/a/x/r");
         look("/b");
+        look("/w");
         due("its ROOT, x, y, q, r", x.unmount(1), 5);
-        due("the ROOT, a, b", x.has(2), 3);
+        due("the ROOT, a, b, an ABSENCE of 0", x.has(2), 4);
+        due("that ABSENCE", x.has(3), 1);
         due("none TRIMMED", x.has(8), 0);
         due("COUNT", x.entry(1, 3), 2);
         due("COVERED by none", x.entry(1, 6), NONE);

@@ -519,6 +519,7 @@ public final class CallsBoundariesTest extends Script {
         victimNoneSuch();
         pathOfRoots();
         pathOfTheLongest();
+        pathOfAllNodes();
         pathOfAGoneOne();
         pathNoneSuch();
         octetNoneSuch();
@@ -642,6 +643,29 @@ public final class CallsBoundariesTest extends Script {
         dueText("14 NAMES", written(0), "/c/d/e" + times(7, "/aaaa") + times(4, "/bbbb"));
         due("its last byte", x.octet(60), 'b');
         due("none behind it", x.octet(61), NONE);
+    }
+
+    /** 59 folders, one in the other: what hangs together is moved below the next, so that no PATH has more than 12 STEPS. */
+    private static void pathOfAllNodes() {
+        sentence("The PATH of a HANDLE is written: how many bytes (of as many NODES as there can be)");
+        StringBuilder text = new StringBuilder(times(7, "aaaa{") + times(7, "}"));
+        for (String name : "bbbb cccc dddd eeee".split(" ")) text.append(times(8, name + "{")).append(times(8, "}"));
+        fresh(text + ";");
+        open(times(7, "/aaaa"));
+        rename("/aaaa " + times(8, "/bbbb") + "/aaaa");
+        rename("/bbbb " + times(8, "/cccc") + "/bbbb");
+        rename("/cccc " + times(8, "/dddd") + "/cccc");
+        rename("/dddd " + times(8, "/eeee") + "/dddd");
+        for (int k = 1; k <= 11; k++) folder(times(k, "/ffff"));
+        rename("/eeee " + times(11, "/ffff") + "/eeee");
+        for (int k = 1; k <= 9; k++) folder(times(k, "/gggg"));
+        rename("/ffff " + times(9, "/gggg") + "/ffff");
+        due("nodes", x.has(1), 60);
+        String due = times(9, "/gggg") + times(11, "/ffff") + times(8, "/eeee") + times(8, "/dddd")
+            + times(8, "/cccc") + times(8, "/bbbb") + times(7, "/aaaa");
+        due("59 NAMES of 4 letters", due.length(), 295);
+        dueText("written", written(0), due);
+        due("none behind it", x.octet(295), NONE);
     }
 
     private static void pathOfAGoneOne() {
@@ -1241,6 +1265,8 @@ public final class CallsBoundariesTest extends Script {
 
     private static void undoneAndRefused() {
         undoOfEachAct();
+        undoOfAWalkersWay();
+        undoOfOneThatQuit();
         undoWhatStays();
         undoRefused();
         seedFromZeroOn();
@@ -1253,19 +1279,21 @@ public final class CallsBoundariesTest extends Script {
         sentence("The latest ACT (look(), make(), .. quit(), not refused, or by WALKS alone) is undone");
         Runnable[] all = {
             () -> look("/a/q"), () -> file("/f"), () -> remove("/a/b"), () -> rename("/a /e"), () -> open("/a"),
-            () -> x.close(0), () -> mount("/a", 2), () -> x.unmount(1), () -> x.trim(100), () -> x.room(4),
+            () -> x.close(0), () -> mount("/a", 2), () -> x.unmount(1), () -> x.trim(100), () -> x.room(5),
             () -> x.chance(40), () -> begin("/q"), () -> x.step(0), () -> x.quit(0),
             () -> file("/c"), () -> remove("/a"), () -> rename("/a /c"), () -> open("/q"), () -> mount("/c", 2),
         };
         for (int k = 0; k < all.length; k++) {
             fresh("a{b}c d{};x;y;");
+            x.room(4);
             open("/c");
             begin("/a/b");
             mount("/d", 1);
             look("/q");
+            look("/r");
             int[] before = snapshot();
             all[k].run();
-            due("act " + k + " can be undone", x.has(14), 5);
+            due("act " + k + " can be undone", x.has(14), 7);
             due("act " + k + " is undone", x.undo(), true);
             int[] after = snapshot();
             for (int i = 0; i < before.length; i++) due("act " + k + ", answer " + i, after[i], before[i]);
@@ -1281,6 +1309,50 @@ public final class CallsBoundariesTest extends Script {
         for (int k = 0; k < 6; k++) all[at++] = x.handle(k);
         for (int what = 0; what < 6; what++) all[at++] = x.walker(0, what);
         return all;
+    }
+
+    private static void undoOfAWalkersWay() {
+        sentence("The latest ACT (.. step() ..) is undone: its WAY, RESTARTS, whether HEAVY");
+        fresh("a b;");
+        look("/a");
+        begin("/a/.");
+        x.step(0);
+        x.trim(1);
+        due("b by a's number", look("/b"), 1);
+        due("anew", x.step(0), 0);
+        due("a by another number", x.walker(0, 5), 2);
+        x.undo();
+        int[] wants = {0, 0, 1, 2, 2, 1};
+        for (int what = 0; what < 6; what++) due("walker " + what, x.walker(0, what), wants[what]);
+        due("HELD by b alone", x.entry(0, 2), 1);
+        x.undo();
+        look("/a");
+        due("a by the same number, another BIRTH: anew", x.step(0), 0);
+        x.undo();
+        due("anew again", x.step(0), 0);
+        x.undo();
+        rename("/a /c");
+        rename("/c /a");
+        due("another COUNT: anew", x.step(0), 0);
+        x.undo();
+        due("anew again", x.step(0), 0);
+        due("RESTARTS", x.walker(0, 1), 1);
+    }
+
+    private static void undoOfOneThatQuit() {
+        sentence("The latest ACT (.. begin(), .. quit()) is undone");
+        fresh("a{b}c;");
+        begin("/a/b");
+        x.step(0);
+        x.quit(0);
+        due("its number", begin("/c"), 0);
+        due("over", x.step(0), 1);
+        for (int k = 0; k < 3; k++) x.undo();
+        int[] wants = {1, 0, 1, 2, 2, 1};
+        for (int what = 0; what < 6; what++) due("walker " + what, x.walker(0, what), wants[what]);
+        due("it HOLDS a", x.entry(1, 2), 1);
+        due("it goes on", x.step(0), 1);
+        due("b", x.result(0), 2);
     }
 
     private static void undoWhatStays() {

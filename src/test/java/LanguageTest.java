@@ -113,7 +113,7 @@ public final class LanguageTest {
         x.trees();
         Script.put(x, "/a/b/c/d/e /f /g /h /a/b /q /r /s /a/b/c/d/e /f /g /h");
         x.trace();
-        for (int k = 0; k < 60; k++) {
+        for (int k = 0; k < 50; k++) {
             x.chance(40);
             x.tells(1);
             x.fits(3);

@@ -21,6 +21,7 @@ public final class MemoryBoundariesTest extends Script {
         rootsDontCount();
         asLongAsThereAreMore();
         oneIsFreeButTheOneLoaded();
+        allNodesAreHeld();
         leastUseGoes();
         oneThatHoldsStays();
         walkBeginsAtTheRoot();
@@ -348,6 +349,33 @@ public final class MemoryBoundariesTest extends Script {
         due("three TRIMMED", x.has(8), 3);
         due("g is there", known("/g") > 0, true);
         due("c is there", known("/a/b/c"), 3);
+    }
+
+    private static void allNodesAreHeld() {
+        sentence("as long as there are more ENTRIES than ROOM .. and one is FREE (all NODES that can be are HELD)");
+        StringBuilder text = new StringBuilder();
+        for (String name : "a b c d".split(" ")) text.append(times(8, name + "{")).append(name).append(times(8, "}"));
+        fresh(text + "e{e{e{}}};");
+        for (String name : "a b c d".split(" ")) open(times(9, "/" + name));
+        for (int k = 4; k <= 12; k++) folder(times(k, "/e"));
+        for (int k = 1; k <= 11; k++) folder(times(k, "/f"));
+        open(times(12, "/e"));
+        open(times(11, "/f"));
+        due("nodes", x.has(1), 60);
+        due("all of them", x.has(2), 60);
+        due("none FREE", x.has(4), 0);
+        int trimmed = x.has(8);
+        due("nothing", look("/q"), NOTHING);
+        due("one more", x.has(2), 61);
+        due("a HELD one", look(times(9, "/a")), known(times(9, "/a")));
+        due("come to: none goes", x.has(2), 61);
+        due("nothing", look("/r"), NOTHING);
+        due("q went, r came", x.has(2), 61);
+        due("one TRIMMED", x.has(8), trimmed + 1);
+        due("q", child("q", 0), NONE);
+        due("r", child("r", 0) > 0, true);
+        x.close(5);
+        due("11 and r go", x.trim(100), 12);
     }
 
     private static void leastUseGoes() {

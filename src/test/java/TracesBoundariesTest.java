@@ -12,6 +12,7 @@ public final class TracesBoundariesTest extends Script {
         fitsAreRoomsByWhichThatIsSo();
         tellingTheFewest();
         tellingByFitsAlone();
+        tellingByItsOwnNumber();
         tellingTheFirstOfLikeOnes();
         finish("the boundaries of the traces are kept");
     }
@@ -183,6 +184,28 @@ public final class TracesBoundariesTest extends Script {
         x.see(11);
         due("no FITS", x.tells(0), NONE);
         due("no FITS", x.tells(1), NONE);
+    }
+
+    /** A PATH that comes to some NAMES of the ROOT, one behind the other. */
+    private static String beside(String[] names, int from, int to) {
+        StringBuilder path = new StringBuilder("/" + names[from]);
+        for (int k = from + 1; k < to; k++) path.append("/../").append(names[k]);
+        return path.toString();
+    }
+
+    private static void tellingByItsOwnNumber() {
+        sentence("the PATH of the TRACE by whose number of ENTRIES LOADED");
+        fresh(names(25) + ";");
+        String[] names = names(25).split(" ");
+        String row = beside(names, 0, 6) + " " + beside(names, 6, 12) + " " + beside(names, 12, 18) + " " + beside(names, 18, 24);
+        // the first again: LOADED by 4 .. 24; the 13th again: LOADED by 4 .. 13
+        due("seven", trace(row + " /" + names[24] + " /" + names[0] + " /" + names[12]), 7);
+        due("by 24", x.loads(24), 26);
+        due("by 25", x.loads(25), 25);
+        due("by 13", x.loads(13), 27);
+        due("by 14", x.loads(14), 26);
+        due("the first again", x.tells(0), 5);
+        due("4 .. 24 are left at the most", x.tells(1), 21);
     }
 
     private static void tellingTheFirstOfLikeOnes() {
