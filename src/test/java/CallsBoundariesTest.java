@@ -28,6 +28,17 @@ public final class CallsBoundariesTest extends Script {
         due("the tape is empty", x.end(0), true);
         due("the tape is empty", x.end(1), false);
         constants();
+        usedFor512Calls();
+    }
+
+    private static void usedFor512Calls() {
+        sentence("An object is used for at most 512 calls after it has been made");
+        fresh("a;");
+        // three calls so far; 508 more, and the one that is asked
+        int loaded = 0;
+        for (int k = 0; k < 508; k++) loaded += x.chance(40);
+        due("the 512th", x.entry(1, 1), 1);
+        due("a alone was LOADED", loaded, 1);
     }
 
     private static void constants() {
