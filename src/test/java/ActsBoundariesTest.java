@@ -566,6 +566,14 @@ public final class ActsBoundariesTest extends Script {
         due("HELD by none", x.entry(1, 2), 0);
         mount("/a", 1);
         due("its ROOT alone", x.unmount(1), 1);
+        fresh("a{}b{c};x;");
+        look("/b/c");
+        x.trim(1);
+        mount("/a", 1);
+        look("/b");
+        due("its ROOT alone, not what went before", x.unmount(1), 1);
+        due("b by none", x.entry(known("/b"), 2), 0);
+        due("the ROOT by a, b", x.entry(0, 2), 2);
     }
 
     private static void anotherRoomTrimsNothing() {

@@ -204,6 +204,12 @@ public final class CallsBoundariesTest extends Script {
         due("loads", x.loads(4), NONE);
         due("undo", x.undo(), false);
         due("nothing is MOUNTED", look("/a/b"), 2);
+        due("no NODE of before", x.node(5, 0), NONE);
+        due("nor its letter", x.letter(false, 5, 0), NONE);
+        due("trees of two", trees("a;"), 1);
+        due("one in the ROOT", x.node(0, 3), 1);
+        due("none of before in a", x.node(1, 3), 0);
+        due("no NODE of before", x.node(2, 0), NONE);
     }
 
     private static void treesSeedStays() {
@@ -850,6 +856,8 @@ public final class CallsBoundariesTest extends Script {
         due("volume 1", mount("/a", 1), 2);
         fresh("a{};");
         due("volume 1 of 1", mount("/a", 1), NONE);
+        due("volume 2 of 1", mount("/a", 2), NONE);
+        due("at once", x.has(14), 0);
     }
 
     private static void unmountRefused() {
@@ -1341,11 +1349,20 @@ public final class CallsBoundariesTest extends Script {
         due("a by the same number, another BIRTH: anew", x.step(0), 0);
         x.undo();
         due("anew again", x.step(0), 0);
-        x.undo();
+        due("RESTARTS", x.walker(0, 1), 1);
+        undoOfAWalkersCounts();
+    }
+
+    private static void undoOfAWalkersCounts() {
+        fresh("a;");
+        look("/a");
+        begin("/a/.");
+        x.step(0);
         rename("/a /c");
         rename("/c /a");
         due("another COUNT: anew", x.step(0), 0);
         x.undo();
+        due("no RESTARTS", x.walker(0, 1), 0);
         due("anew again", x.step(0), 0);
         due("RESTARTS", x.walker(0, 1), 1);
     }

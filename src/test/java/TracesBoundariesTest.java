@@ -164,6 +164,9 @@ public final class TracesBoundariesTest extends Script {
         trace("/a /b /c /d /e /f /g /h /c /a");
         due("a", x.tells(0), 9);
         due("33", x.tells(1), 33);
+        trace("/a /b /c /d /e /f /g /h /c");
+        due("without a: c", x.tells(0), 8);
+        due("35", x.tells(1), 35);
         trace("/a /b /c /d /e /f /g /h /a /c");
         // by 6 c went when a came again, by 7 it stays: 4 .. 6, 34 left
         due("a, ahead of c", x.tells(0), 8);
@@ -181,6 +184,11 @@ public final class TracesBoundariesTest extends Script {
         due("6, 7", x.fits(NONE), 2);
         due("none tells more", x.tells(0), 0);
         due("both are left", x.tells(1), 2);
+        trace("/a /b /c /d /e /a");
+        x.see(6);
+        due("4 alone", x.fits(NONE), 1);
+        due("the first", x.tells(0), 0);
+        due("one is left", x.tells(1), 1);
         x.see(11);
         due("no FITS", x.tells(0), NONE);
         due("no FITS", x.tells(1), NONE);

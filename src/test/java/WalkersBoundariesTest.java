@@ -420,6 +420,11 @@ public final class WalkersBoundariesTest extends Script {
         due("the ROOT", x.result(1), 0);
         due("LIGHT", x.result(3), 0);
         due("no more", x.step(0), NONE);
+        begin("/q/r");
+        x.quit(0);
+        begin("/");
+        due("found, whatever the one ahead of it was to do", x.step(0), 1);
+        due("LIGHT", x.result(3), 0);
     }
 
     private static void overBehindItsLastStep() {
