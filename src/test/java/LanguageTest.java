@@ -1,12 +1,17 @@
+import java.io.PrintWriter;
+import java.io.StringWriter;
 import java.lang.management.ManagementFactory;
 import java.lang.reflect.Field;
 import java.lang.reflect.Method;
 import java.lang.reflect.Modifier;
 import java.nio.file.Files;
 import java.nio.file.Path;
+import java.util.Map;
+import java.util.TreeMap;
 import java.util.TreeSet;
 import java.util.regex.Matcher;
 import java.util.regex.Pattern;
+import java.util.spi.ToolProvider;
 
 /** What of LANGUAGE.md can be seen from outside: the face, words that are not allowed, what a run makes. */
 public final class LanguageTest {
@@ -15,6 +20,13 @@ public final class LanguageTest {
         + " unmount victim walker where";
     private static final String[] FORBIDDEN = {"throw", "throws", "try", "catch", "synchronized", "assert", "protected", "volatile",
         "System.out", "HashMap", "->", "::", "hashCode", "toString", "Exact", "nanoTime", "currentTimeMillis", "Random", "Thread"};
+    /* What rule 4 lists, as the compiled class calls it. */
+    private static final Pattern LIBRARY = Pattern.compile("java/lang/Object\\.<init>|java/lang/System\\.arraycopy"
+        + "|java/util/Arrays\\.(copyOf|copyOfRange|fill)|java/lang/(Math|Integer|Long)\\.(?!\\w*Exact)\\w+"
+        + "|java/lang/String\\.(<init>|length|charAt|isEmpty|equals|indexOf|substring|toCharArray)"
+        + "|java/lang/StringBuilder\\.(<init>|append|charAt|setCharAt|setLength|deleteCharAt|reverse|length|toString)"
+        + "|java/util/(ArrayList|List)\\.(<init>|add|get|set|remove|size|isEmpty|clear|of)");
+    private static final int DEEPEST = 8;
     private static int wrong = 0;
 
     private static void check(boolean fine, String what) {
@@ -28,6 +40,7 @@ public final class LanguageTest {
         face();
         nested();
         source();
+        calls();
         roomOfARun();
         System.out.println(wrong == 0 ? "the language is kept" : wrong + " rules are broken");
         if (wrong != 0) {
@@ -90,6 +103,60 @@ public final class LanguageTest {
                 start = -1;
             }
         }
+    }
+
+    /** By the compiled class: which methods call which, how deep they go, what of the library they call. */
+    private static void calls() {
+        ToolProvider javap = ToolProvider.findFirst("javap").orElse(null);
+        if (javap == null) {
+            return;
+        }
+        TreeMap<String, TreeSet<String>> graph = new TreeMap<>();
+        addCalls(javap, NameKeeper.class, graph);
+        for (Class<?> c : NameKeeper.class.getDeclaredClasses()) addCalls(javap, c, graph);
+        check(graph.containsKey("NameKeeper.feed"), "the compiled class can't be read");
+        TreeMap<String, Integer> depths = new TreeMap<>();
+        for (Map.Entry<String, TreeSet<String>> method : graph.entrySet()) {
+            int depth = depthOf(method.getKey(), graph, depths);
+            check(depth <= DEEPEST, method.getKey() + " goes " + depth + " calls deep");
+            for (String called : method.getValue()) {
+                check(graph.containsKey(called) || LIBRARY.matcher(called).matches(), method.getKey() + " calls " + called);
+            }
+        }
+    }
+
+    private static void addCalls(ToolProvider javap, Class<?> type, TreeMap<String, TreeSet<String>> graph) {
+        StringWriter text = new StringWriter();
+        PrintWriter out = new PrintWriter(text);
+        javap.run(out, out, "-c", "-p", "-cp", System.getProperty("java.class.path"), type.getName());
+        Pattern head = Pattern.compile("  (?:\\w[^(]* )?([\\w$]+)\\(.*\\);");
+        Pattern call = Pattern.compile("// (?:Interface)?Method (?:([\\w/$]+)\\.)?\"?([\\w<>]+)\"?:");
+        TreeSet<String> within = new TreeSet<>();
+        for (String line : text.toString().split("\\R")) {
+            Matcher begins = head.matcher(line);
+            Matcher calls = call.matcher(line);
+            if (begins.matches()) {
+                String name = begins.group(1).equals(type.getName()) ? "<init>" : begins.group(1);
+                within = graph.computeIfAbsent(type.getName() + "." + name, key -> new TreeSet<>());
+            } else if (calls.find()) {
+                within.add((calls.group(1) == null ? type.getName() : calls.group(1)) + "." + calls.group(2));
+            }
+        }
+    }
+
+    /** How many calls stand open at the most from a method on; the class has no recursion, and one that came in would show here. */
+    private static int depthOf(String method, TreeMap<String, TreeSet<String>> graph, TreeMap<String, Integer> depths) {
+        if (depths.containsKey(method)) {
+            check(depths.get(method) > 0, method + " calls itself");
+            return depths.get(method);
+        }
+        depths.put(method, 0);
+        int deepest = 0;
+        for (String called : graph.get(method)) {
+            if (graph.containsKey(called)) deepest = Math.max(deepest, depthOf(called, graph, depths));
+        }
+        depths.put(method, deepest + 1);
+        return deepest + 1;
     }
 
     /** A run's calls make no more than the constructor and the first twenty acts do. */

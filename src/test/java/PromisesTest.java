@@ -33,6 +33,7 @@ public final class PromisesTest extends Script {
         undoneRefusals();
         seeds();
         refusals();
+        readme();
         finish("all promises are kept");
     }
 
@@ -1208,5 +1209,30 @@ public final class PromisesTest extends Script {
         for (int k = 0; k < 6; k++) due("status " + k, x.status(k), want[k]);
         due("status 6", x.status(6), NONE);
         due("status -1", x.status(-1), NONE);
+    }
+
+    /** The run of calls that README.md shows. */
+    private static void readme() {
+        x = new NameKeeper();
+        due("README: trees", trees("a{b{c}d}e; x{y};"), 2);
+        due("README: where", where("/a/d"), 4);
+        due("README: needs", needs("/a/d"), 2);
+        due("README: look", look("/a/b/c"), 3);
+        due("README: make", folder("/a/q"), 9);
+        due("README: mount", mount("/a/q", 1), 5);
+        due("README: open", open("/a/q/x/y"), 0);
+        due("README: path", x.path(0), 8);
+        due("README: octet", x.octet(7), 'y');
+        due("README: begin", begin("/a/b"), 0);
+        due("README: step", x.step(0), 0);
+        due("README: step", x.step(0), 1);
+        due("README: result", x.result(0), 2);
+        due("README: trace", trace("/a/b/c /e /a/b/c"), 3);
+        due("README: loads", x.loads(4), 4); // e takes the place of c, c that of e
+        due("README: loads", x.loads(5), 3);
+        due("README: look", look("a"), NONE);
+        due("README: status", x.status(2), 1);
+        due("README: undo", x.undo(), true);
+        due("README: the walker again", x.walker(0, 2), 1);
     }
 }
